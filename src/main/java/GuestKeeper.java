@@ -465,20 +465,14 @@ public final class GuestKeeper {
                     break;
                 case OP_LOAD:
                 case OP_STORE:
-                    int at = registers[b] + i & ADDRESS_MASK;
-                    Page page = home.pageAtAddress(at);
-                    if (page == null) {
-                        return faultAt(at);
-                    }
-                    moveWord(op == OP_LOAD, a, page, at % WORDS);
+                    exit = moveWord(op == OP_LOAD, a, registers[b] + i & ADDRESS_MASK, home);
                     break;
                 case OP_JUMP:
                     nextPc = registers[a] != 0 ? i & ADDRESS_MASK : nextPc;
                     break;
                 case OP_SHARE:
                 case OP_UNSHARE:
-                    boolean done = home.changeSharingAt(registers[a] & PLACE_MASK, op == OP_SHARE);
-                    registers[a] = done ? 1 : 0;
+                    registers[a] = home.changeSharingAt(registers[a] & PLACE_MASK, op == OP_SHARE) ? 1 : 0;
                     break;
                 case OP_TELL:
                     exitInfo = registers[a];
@@ -492,18 +486,27 @@ public final class GuestKeeper {
                     registers[a] ^= registers[b];
                     break;
                 default:
-                    return EXIT_BAD;
+                    exit = EXIT_BAD;
+                    break;
             }
-            pc = nextPc;
+            // What was not done is tried again by the next run.
+            if (exit != EXIT_FAULT && exit != EXIT_BAD) {
+                pc = nextPc;
+            }
             return exit;
         }
 
-        private void moveWord(boolean intoRegister, int a, Page page, int k) {
-            if (intoRegister) {
-                registers[a] = page.words[k];
-            } else {
-                page.words[k] = registers[a];
+        private int moveWord(boolean intoRegister, int a, int at, Guest home) {
+            Page page = home.pageAtAddress(at);
+            if (page == null) {
+                return faultAt(at);
             }
+            if (intoRegister) {
+                registers[a] = page.words[at % WORDS];
+            } else {
+                page.words[at % WORDS] = registers[a];
+            }
+            return EXIT_STEPS_DONE;
         }
 
         private int faultAt(int address) {

@@ -659,7 +659,7 @@ public final class GuestKeeperPromises {
         due("load(1, 0)", x.load(1, 0), true);
         // Each row: the place to share, what is told, whether page 2 is shared then; the same for unshare.
         int[][] rows = {
-            {2, 1, 1, 5, 0, 1}, {2, 0, 1, 3, 0, 1}, {5, 0, 1, 2, 1, 0}, {3, 0, 0, 2, 0, 0},
+            {2, 1, 1, 5, 0, 1}, {2, 0, 1, 3, 0, 1}, {5, 0, 1, 2, 1, 0}, {3, 0, 0, 2, 0, 0}, {34, 0, 0, 2, 0, 0},
             {-62, 1, 1, 66, 1, 0}, {64002, 1, 1, 1, 0, 1}, {0, 1, 1, 2, 1, 0}};
         for (int[] row : rows) {
             for (int i = 0; i < 6; i += 3) {
