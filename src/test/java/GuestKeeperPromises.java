@@ -1,24 +1,5 @@
 /** One method or more for each promise of the document; each prints every answer that is not the one due. */
-public final class GuestKeeperPromises {
-    private static final int STOP = 0;
-    private static final int SET = 1;
-    private static final int ADD = 2;
-    private static final int LOAD = 3;
-    private static final int STORE = 4;
-    private static final int JUMP = 5;
-    private static final int SHARE = 6;
-    private static final int UNSHARE = 7;
-    private static final int TELL = 8;
-    private static final int ASK = 9;
-    private static final int XOR = 10;
-
-    private static final int[] NO_PAGES = {-1, 24, 25, Integer.MIN_VALUE, Integer.MAX_VALUE};
-    private static final int[] NO_GUESTS = {0, -1, 2, 6, 7, 8, Integer.MIN_VALUE, Integer.MAX_VALUE};
-    private static final int[] NOT_0_TO_3 = {-1, 4, Integer.MIN_VALUE, Integer.MAX_VALUE};
-
-    private static int wrong = 0;
-    private static String promise = "";
-
+public final class GuestKeeperPromises extends Check {
     private GuestKeeperPromises() {
     }
 
@@ -51,64 +32,11 @@ public final class GuestKeeperPromises {
         state();
         pool();
         tables();
-        System.out.println(wrong == 0 ? "all promises hold" : wrong + " answers are not as due");
-        if (wrong != 0) {
-            System.exit(1);
-        }
-    }
-
-    private static void due(String call, long got, long want) {
-        if (got != want) {
-            wrong++;
-            System.out.println(promise + ": " + call + " answered " + got + ", due is " + want);
-        }
-    }
-
-    private static void due(String call, boolean got, boolean want) {
-        due(call, got ? 1L : 0L, want ? 1L : 0L);
-    }
-
-    private static int code(int op, int a, int b, int i) {
-        return i << 8 | b << 6 | a << 4 | op;
-    }
-
-    /** The host puts these words into a page of its own, from word 0 on. */
-    private static void fill(GuestKeeper x, int p, int... words) {
-        for (int k = 0; k < words.length; k++) {
-            due("write(" + p + ", " + k + ", ..)", x.write(p, k, words[k]), true);
-        }
-    }
-
-    /** Guest 1 with root 23 and a pool of pages 22, 21, .. */
-    private static GuestKeeper withGuest(int poolPages) {
-        GuestKeeper x = new GuestKeeper();
-        due("create(23)", x.create(23), 1);
-        for (int i = 0; i < poolPages; i++) {
-            due("feed(1, " + (22 - i) + ")", x.feed(1, 22 - i), i + 1);
-        }
-        return x;
-    }
-
-    /** Guest 1 with a program of up to twelve words in pages 0, 1, 2 at its first places, processor 0 loaded. */
-    private static GuestKeeper running(int... program) {
-        GuestKeeper x = withGuest(6);
-        for (int k = 0; k < program.length; k++) {
-            due("write", x.write(k / 4, k % 4, program[k]), true);
-        }
-        for (int p = 0; p < 3; p++) {
-            due("donate(1, " + p + ", " + p + ")", x.donate(1, p, p), 0);
-        }
-        due("load(1, 0)", x.load(1, 0), true);
-        return x;
-    }
-
-    private static void exitDue(GuestKeeper x, int n, int answer, int exit, int info) {
-        due("run(" + n + ", " + answer + ")", x.run(n, answer), exit);
-        due("info()", x.info(), info);
+        end();
     }
 
     private static void newObject() {
-        promise = "1 new object";
+        says("1 new object");
         GuestKeeper x = new GuestKeeper();
         due("faults()", x.faults(), 0);
         due("info()", x.info(), 0);
@@ -139,7 +67,7 @@ public final class GuestKeeperPromises {
     }
 
     private static void read() {
-        promise = "2 read";
+        says("2 read");
         GuestKeeper x = new GuestKeeper();
         fill(x, 23, -1, Integer.MIN_VALUE, Integer.MAX_VALUE, 7);
         due("read(23, 0)", x.read(23, 0), -1);
@@ -168,7 +96,7 @@ public final class GuestKeeperPromises {
     }
 
     private static void write() {
-        promise = "3 write";
+        says("3 write");
         GuestKeeper x = withGuest(2);
         fill(x, 0, code(LOAD, 0, 0, 3), code(TELL, 0, 0, 0), 0, 77);
         due("donate(1, 0, 0)", x.donate(1, 0, 0), 0);
@@ -195,7 +123,7 @@ public final class GuestKeeperPromises {
     }
 
     private static void faults() {
-        promise = "4 faults";
+        says("4 faults");
         GuestKeeper x = withGuest(2);
         due("faults()", x.faults(), 0);
         due("read(0, 0)", x.read(0, 0), 0);
@@ -222,7 +150,7 @@ public final class GuestKeeperPromises {
     }
 
     private static void create() {
-        promise = "5 create";
+        says("5 create");
         GuestKeeper x = new GuestKeeper();
         for (int p : NO_PAGES) {
             due("create(" + p + ")", x.create(p), -1);
@@ -258,7 +186,7 @@ public final class GuestKeeperPromises {
     }
 
     private static void feed() {
-        promise = "6 feed";
+        says("6 feed");
         GuestKeeper x = withGuest(0);
         for (int g : NO_GUESTS) {
             due("feed(" + g + ", 0)", x.feed(g, 0), -1);
@@ -291,7 +219,7 @@ public final class GuestKeeperPromises {
     }
 
     private static void donate() {
-        promise = "7 donate";
+        says("7 donate");
         GuestKeeper x = withGuest(4);
         fill(x, 0, code(SET, 0, 0, 5), code(TELL, 0, 0, 0));
         due("donate(1, 0, 0)", x.donate(1, 0, 0), 0);
@@ -310,7 +238,7 @@ public final class GuestKeeperPromises {
     }
 
     private static void donateWipes() {
-        promise = "7 donate wipes";
+        says("7 donate wipes");
         GuestKeeper x = withGuest(2);
         int tell = code(TELL, 0, 0, 0);
         fill(x, 0, tell, tell, tell, tell);
@@ -350,7 +278,7 @@ public final class GuestKeeperPromises {
     private static void placingRefusals() {
         for (int way = 0; way < 2; way++) {
             boolean lends = way == 1;
-            promise = lends ? "8 lend refuses" : "7 donate refuses";
+            says(lends ? "8 lend refuses" : "7 donate refuses");
             GuestKeeper x = withGuest(0);
             due("(1, 0, 0) without a pool", place(x, lends, 1, 0, 0), -4);
             due("feed(1, 22)", x.feed(1, 22), 1);
@@ -386,7 +314,7 @@ public final class GuestKeeperPromises {
             due("pool(1)", x.pool(1), 0);
             due("tables(1)", x.tables(1), 3);
         }
-        promise = "7 and 8, dead guest";
+        says("7 and 8, dead guest");
         GuestKeeper x = withGuest(2);
         due("destroy(1)", x.destroy(1), true);
         due("donate(1, 0, 0)", x.donate(1, 0, 0), -1);
@@ -397,7 +325,7 @@ public final class GuestKeeperPromises {
     }
 
     private static void lend() {
-        promise = "8 lend";
+        says("8 lend");
         GuestKeeper x = withGuest(4);
         fill(x, 0, code(SET, 0, 0, 33), code(STORE, 0, 1, 3), code(LOAD, 2, 1, 2), 0);
         due("state(0)", x.state(0), 2);
@@ -420,7 +348,7 @@ public final class GuestKeeperPromises {
     }
 
     private static void takeBack() {
-        promise = "9 takeBack";
+        says("9 takeBack");
         GuestKeeper x = withGuest(5);
         for (int p : NO_PAGES) {
             due("takeBack(" + p + ")", x.takeBack(p), false);
@@ -460,7 +388,7 @@ public final class GuestKeeperPromises {
     }
 
     private static void destroy() {
-        promise = "10 destroy";
+        says("10 destroy");
         GuestKeeper x = running(code(SET, 0, 0, 1), code(SHARE, 0, 0, 0), code(TELL, 0, 0, 0));
         for (int g : NO_GUESTS) {
             due("destroy(" + g + ")", x.destroy(g), false);
@@ -502,7 +430,7 @@ public final class GuestKeeperPromises {
     }
 
     private static void reclaim() {
-        promise = "11 reclaim";
+        says("11 reclaim");
         GuestKeeper x = running(code(SET, 0, 0, 0), code(SHARE, 0, 0, 0), code(TELL, 0, 0, 0), 55);
         exitDue(x, 3, 0, 2, 1);
         due("read(0, 3)", x.read(0, 3), 55);
@@ -529,7 +457,7 @@ public final class GuestKeeperPromises {
     }
 
     private static void load() {
-        promise = "12 load";
+        says("12 load");
         GuestKeeper x = withGuest(0);
         due("create(0)", x.create(0), 2);
         int[] none = {-1, 0, 3, 6, 7, Integer.MIN_VALUE, Integer.MAX_VALUE};
@@ -554,7 +482,7 @@ public final class GuestKeeperPromises {
     }
 
     private static void put() {
-        promise = "13 put";
+        says("13 put");
         GuestKeeper x = running(code(SET, 1, 0, 9), code(ADD, 1, 1, 0), code(TELL, 1, 0, 0), code(TELL, 1, 0, 0));
         due("run(2, 0)", x.run(2, 0), 0);
         due("put()", x.put(), true);
@@ -572,7 +500,7 @@ public final class GuestKeeperPromises {
     }
 
     private static void runArithmetic() {
-        promise = "14 run, arithmetic";
+        says("14 run, arithmetic");
         GuestKeeper x = running(
                 code(SET, 0, 0, -1), code(TELL, 0, 3, 99), code(SET, 3, 0, 0x7FFFFF), code(TELL, 3, 0, 0),
                 code(ADD, 3, 0, 5), code(TELL, 3, 0, 0), code(XOR, 0, 3, 5), code(TELL, 0, 0, 0),
@@ -591,7 +519,7 @@ public final class GuestKeeperPromises {
     }
 
     private static void runMemory() {
-        promise = "14 run, memory";
+        says("14 run, memory");
         GuestKeeper x = running(
                 code(SET, 1, 0, 300), code(LOAD, 2, 1, -33), code(STORE, 1, 2, 3), code(LOAD, 3, 2, 3),
                 code(TELL, 3, 0, 0), code(SET, 2, 0, -1), code(STORE, 2, 2, 4), code(LOAD, 1, 0, 3),
@@ -623,7 +551,7 @@ public final class GuestKeeperPromises {
     }
 
     private static void runJumps() {
-        promise = "14 run, jumps";
+        says("14 run, jumps");
         GuestKeeper x = withGuest(4);
         fill(x, 0, code(JUMP, 0, 0, 9), code(SET, 0, 0, 1), code(JUMP, 0, 0, -2), code(TELL, 0, 0, 0));
         fill(x, 1, code(STOP, 0, 0, 0), code(STOP, 0, 0, 0), code(ADD, 1, 0, 0), code(TELL, 1, 0, 0));
@@ -646,7 +574,7 @@ public final class GuestKeeperPromises {
     }
 
     private static void runSharing() {
-        promise = "14 run, sharing";
+        says("14 run, sharing");
         GuestKeeper x = withGuest(2);
         int tell = code(TELL, 0, 0, 0);
         fill(x, 0, code(ASK, 0, 0, 0), code(SHARE, 0, 0, 0), tell, code(ASK, 1, 0, 0));
@@ -680,7 +608,7 @@ public final class GuestKeeperPromises {
     }
 
     private static void runAsking() {
-        promise = "14 run, asking";
+        says("14 run, asking");
         GuestKeeper x = running(
                 code(SET, 2, 0, 4), code(ASK, 2, 0, 0), code(TELL, 2, 0, 0), code(ASK, 1, 0, 0),
                 code(TELL, 1, 0, 0), code(TELL, 2, 0, 0), code(ASK, 3, 0, 0), code(LOAD, 0, 3, 0),
@@ -724,7 +652,7 @@ public final class GuestKeeperPromises {
     }
 
     private static void runExits() {
-        promise = "14 run, exits";
+        says("14 run, exits");
         GuestKeeper x = running(code(STOP, 1, 2, 3), code(SET, 0, 0, 8), code(TELL, 0, 0, 0), 0, 11);
         due("put()", x.put(), true);
         due("run(1, 0), none loaded", x.run(1, 0), -1);
@@ -750,7 +678,7 @@ public final class GuestKeeperPromises {
     }
 
     private static void info() {
-        promise = "15 info";
+        says("15 info");
         GuestKeeper x = running(code(SET, 0, 0, -3), code(TELL, 0, 0, 0), code(LOAD, 1, 0, 0), code(TELL, 1, 0, 0));
         due("info()", x.info(), 0);
         exitDue(x, 2, 0, 2, -3);
@@ -769,7 +697,7 @@ public final class GuestKeeperPromises {
     }
 
     private static void set() {
-        promise = "16 set";
+        says("16 set");
         GuestKeeper x = withGuest(0);
         for (int k = 0; k < 4; k++) {
             due("set(" + k + ", ..)", x.set(k, 10 * k - 7), true);
@@ -789,7 +717,7 @@ public final class GuestKeeperPromises {
     }
 
     private static void register() {
-        promise = "17 register";
+        says("17 register");
         GuestKeeper x = running(code(SET, 0, 0, 5), code(SET, 1, 0, 6), code(STOP, 0, 0, 0));
         due("put()", x.put(), true);
         due("set(0, 41)", x.set(0, 41), true);
@@ -809,7 +737,7 @@ public final class GuestKeeperPromises {
     }
 
     private static void owner() {
-        promise = "18 owner";
+        says("18 owner");
         GuestKeeper x = new GuestKeeper();
         for (int p : NO_PAGES) {
             due("owner(" + p + ")", x.owner(p), -1);
@@ -837,7 +765,7 @@ public final class GuestKeeperPromises {
     }
 
     private static void state() {
-        promise = "19 state";
+        says("19 state");
         GuestKeeper x = running(code(SET, 0, 0, 0), code(SHARE, 0, 0, 0), code(SET, 0, 0, 0), code(UNSHARE, 0, 0, 0));
         for (int p : NO_PAGES) {
             due("state(" + p + ")", x.state(p), -1);
@@ -865,7 +793,7 @@ public final class GuestKeeperPromises {
     }
 
     private static void pool() {
-        promise = "20 pool";
+        says("20 pool");
         GuestKeeper x = withGuest(3);
         for (int g : NO_GUESTS) {
             due("pool(" + g + ")", x.pool(g), -1);
@@ -884,7 +812,7 @@ public final class GuestKeeperPromises {
     }
 
     private static void tables() {
-        promise = "21 tables";
+        says("21 tables");
         GuestKeeper x = withGuest(16);
         for (int g : NO_GUESTS) {
             due("tables(" + g + ")", x.tables(g), -1);
