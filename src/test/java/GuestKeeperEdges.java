@@ -454,8 +454,20 @@ public final class GuestKeeperEdges extends Check {
         for (int g : none) {
             due("destroy(" + g + ")", x.destroy(g), false);
         }
+        destroyingLeavesWhatIsLent();
         destroyingALoadedGuest();
         destroyingOneOfTwo();
+    }
+
+    private static void destroyingLeavesWhatIsLent() {
+        says("10: what was lent is the host's as before, its words too");
+        GuestKeeper x = withGuest(2);
+        fill(x, 0, 1, 2, 3, 4);
+        due("lend(1, 0, 0)", x.lend(1, 0, 0), 0);
+        due("destroy(1)", x.destroy(1), true);
+        due("owner(0)", x.owner(0), 0);
+        due("state(0)", x.state(0), 2);
+        wordsDue(x, 0, 1, 2, 3, 4);
     }
 
     private static void destroyingALoadedGuest() {

@@ -84,6 +84,21 @@ public final class GuestKeeperTerms extends Check {
         whatIsNotToBeTouchedFaultsEachTime();
         mappingEndsWithTheRight();
         mappingStaysWithTheRight();
+        guestsTouchMapsNothing();
+    }
+
+    private static void guestsTouchMapsNothing() {
+        says("When the host touches a page: a guest's touch maps nothing and is no host fault");
+        GuestKeeper x = atFour(1, 8, 9, code(LOAD, 0, 1, 0), code(STORE, 2, 1, 1), code(LOAD, 0, 1, 4), code(STORE, 2, 1, 5));
+        due("lend(1, 2, 2)", x.lend(1, 2, 2), 0);
+        due("donate(1, 3, 3)", x.donate(1, 3, 3), 0);
+        int before = x.faults();
+        exitDue(x, 4, 0, 0, 0);
+        due("state(2)", x.state(2), 1);
+        due("state(3)", x.state(3), 0);
+        due("faults()", x.faults(), before);
+        due("read(2, 1)", x.read(2, 1), 9);
+        due("faults()", x.faults(), before + 1);
     }
 
     private static void whatTheHostMayTouch() {
